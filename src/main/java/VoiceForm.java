@@ -295,6 +295,10 @@ public final class VoiceForm {
             return careful && !check;
         }
 
+        boolean isMetBy(Slot needed) {
+            return needed != null && needed.asked && needed.hasValue && needed.value == neededValue;
+        }
+
         boolean isOpen() {
             return asked && !hasValue;
         }
@@ -436,7 +440,7 @@ public final class VoiceForm {
             int fallen = 0;
             for (int f = 0; f < count && f < slots.length; f++) {
                 Slot slot = slots[f];
-                slot.asked = slot.need == NONE || isMet(slot.need, slot.neededValue);
+                slot.asked = slot.need == NONE || slot.isMetBy(slotAt(slot.need));
                 if (slot.hasValue && !slot.asked) {
                     slot.hasValue = false;
                     slot.heardBack = false;
@@ -444,11 +448,6 @@ public final class VoiceForm {
                 }
             }
             return fallen;
-        }
-
-        private boolean isMet(int need, int value) {
-            Slot needed = slotAt(need);
-            return needed != null && needed.asked && needed.hasValue && needed.value == value;
         }
     }
 
@@ -681,8 +680,8 @@ public final class VoiceForm {
             meanings.clear();
         }
 
+        /** Call forget first: what was found before is kept. */
         void read(int atHand, int last) {
-            forget();
             offerAnswers(form.slotAt(atHand), ANSWER);
             offerOrders();
             offerListed(form, GO);
@@ -759,6 +758,10 @@ public final class VoiceForm {
         }
 
         private void offerDigits(Slot slot, int sort) {
+            // Each digit takes a word, a doubled one two for two: with fewer PLACES there is nothing to look for.
+            if (heard.places < slot.length) {
+                return;
+            }
             digitRows.clear(slot.length, slot.check);
             int lead = leadAtFirst(sort);
             if (lead < FAR) {

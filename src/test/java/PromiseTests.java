@@ -505,6 +505,12 @@ public final class PromiseTests {
         said(x, "11", 5);
         atHand(x, 1);
         waits(x, 0);
+        said(x, "17 22", 5);
+        said(x, "31", 3);
+        said(x, "15", 4);
+        due("VALUE", x.field(2, 7), 1);
+        due("HEARD BACK", x.field(2, 5), 1);
+        due("LAST", x.about(1), 2);
     }
 
     private static void kept() {
@@ -610,6 +616,24 @@ public final class PromiseTests {
         said(x, "11", 5);
         atHand(x, 0);
         said(x, "11", 6);
+        said(x, "11", 6);
+
+        part = "8 say: BACK over nineteen that aren't asked for";
+        x = new VoiceForm();
+        x.choice(20, false, 30, 31, NONE, NONE, NONE, NONE);
+        x.digits(21, 1, false, false);
+        x.digits(22, 1, false, false);
+        due("needs", x.needs(1, 0, 0), true);
+        due("needs", x.needs(2, 0, 0), true);
+        said(x, "30", 4);
+        for (int i = 0; i < 9; i++) {
+            said(x, "17 22", 5);
+            said(x, "17 21", 5);
+        }
+        said(x, "16 31", 4);
+        atHand(x, NONE);
+        said(x, "11", 5);
+        atHand(x, 0);
         said(x, "11", 6);
     }
 
@@ -742,6 +766,11 @@ public final class PromiseTests {
         x = withDigits(1);
         said(x, "1,11", 2);
         due("told(8) of an ANSWER and an ORDER", x.told(8), 0);
+        x.costs(30, 0, 10);
+        said(x, "1/2,11", 2);
+        reading(x, 1, 0, 0);
+        other(x, 0, 1, 2);
+        due("told(8) of an ORDER and an ANSWER", x.told(8), 0);
         x = withDigits(8);
         said(x, "0,9/1 1 2 3 4 5 6 7", 2);
         due("first digit", x.told(8), 1);
