@@ -102,6 +102,7 @@ public final class TermEdges {
 
     private static void keptAndBack() {
         keptNotHeardBack();
+        keptWhatFalls();
         keptAtHand();
         keptNotAskedForAnyMore();
         anotherFieldComes();
@@ -1347,6 +1348,41 @@ public final class TermEdges {
         said(x, "15", 4);
         due("HEARD BACK", x.field(1, 5), 1);
         due("hearBack()", x.hearBack(), 0);
+    }
+
+    private static void keptWhatFalls() {
+        sentence = "what FALLS falls; it is THE LAST FIELD";
+        VoiceForm x = chain(3);
+        for (int f = 0; f < 3; f++) {
+            said(x, "50", 4);
+        }
+        said(x, "17 20", 5);
+        said(x, "50", 4);
+        due("told(7) of the same VALUE", x.told(7), 0);
+        due("LAST", x.about(1), 0);
+        said(x, "16 51", 4);
+        due("told(7) of a MEND", x.told(7), 2);
+        due("LAST", x.about(1), 0);
+        value(x, 1, NONE);
+        value(x, 2, NONE);
+        VoiceForm y = new VoiceForm();
+        due("choice", y.choice(20, true, 50, 51, NONE, NONE, NONE, NONE), 0);
+        due("digits", y.digits(21, 1, false, false), 1);
+        due("needs", y.needs(1, 0, 1), true);
+        said(y, "51", 3);
+        due("ASKED FOR ahead of YES", y.field(1, 3), 0);
+        said(y, "15", 4);
+        due("ASKED FOR behind YES", y.field(1, 3), 1);
+        said(y, "5", 4);
+        said(y, "17 20", 5);
+        said(y, "50", 3);
+        due("told(7) ahead of YES", y.told(7), 0);
+        value(y, 1, 5);
+        due("LAST", y.about(1), 1);
+        said(y, "15", 4);
+        due("told(7) of YES", y.told(7), 1);
+        value(y, 1, NONE);
+        due("LAST", y.about(1), 0);
     }
 
     private static void keptAtHand() {
